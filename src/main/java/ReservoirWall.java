@@ -876,37 +876,28 @@ public final class ReservoirWall {
             size = size * 0x1p60;
             exponent -= 60;
         }
-        int top = topBit((long) size);
+        long whole = (long) size;
+        int top = 0;
+        for (int jump = 32; jump >= 1; jump >>= 1) {
+            if (whole >> (top + jump) != 0) top += jump;
+        }
         long part = (long) (top <= 52 ? size * (1L << (52 - top)) : size / (1L << (top - 52)));
         exponent += top;
         if (exponent < -1022) return sign | part >> (-1022 - exponent);
         return sign | (long) (exponent + 1023) << 52 | part & FRACTION;
     }
 
-    private static int topBit(long whole) {
-        int top = 0;
-        for (int jump = 32; jump >= 1; jump >>= 1) {
-            if (whole >> (top + jump) != 0) top += jump;
-        }
-        return top;
-    }
-
-    /** The nearest double to the root, bit by bit, as no library root may be used; of 0.0 and below 0.0. */
+    /** The nearest double to the root, bit by bit, as no library root may be used; 0.0 of 0.0 and below. */
     private static double root(double d) {
         if (!(d > 0.0)) return 0.0;
-        long bits = bitsOf(d);
+        boolean tiny = d < 0x1p-1022;
+        long bits = bitsOf(tiny ? d * 0x1p108 : d);
         if (bits >= INFINITE) return d;
         int exponent = (int) (bits >> 52) - 1023;
-        long part = bits & FRACTION;
-        if (exponent == -1023) {
-            int lift = 52 - topBit(part);
-            part = part << lift;
-            exponent = -1022 - lift;
-        }
-        part = part | FRACTION + 1;
-        if ((exponent & 1) != 0) part = part << 1;
-        long digits = rootDigits(part << 1);
-        return realOf((digits >> 1) + ((long) ((exponent >> 1) + 1022) << 52));
+        long part = bits & FRACTION | FRACTION + 1;
+        long digits = rootDigits((exponent & 1) != 0 ? part << 2 : part << 1);
+        double answer = realOf((digits >> 1) + ((long) ((exponent >> 1) + 1022) << 52));
+        return tiny ? answer * 0x1p-54 : answer;
     }
 
     /** 54 digits of the root, the last one rounded into the one ahead of it (no root is a tie). */
@@ -1343,7 +1334,7 @@ public final class ReservoirWall {
             undoCells[undoCount] = i;
             undoWas[undoCount] = rows[row].cells[i];
             undoCount++;
-            rows[row].setWhole(i, v);
+            rows[row].cells[i] = Row.cellOfWhole(rows[row].kind, v);
             return FINE;
         }
 
@@ -1597,8 +1588,8 @@ public final class ReservoirWall {
             long first = NO_NUMBER;
             for (int i = 0; i < SPAN; i++) {
                 long reading = past[i * GAUGES + gauge];
-                if (noNumber(reading)) continue;
-                if (!noNumber(first) && reading != first) return true;
+                if (reading == NO_NUMBER) continue;
+                if (first != NO_NUMBER && reading != first) return true;
                 first = reading;
             }
             return false;
