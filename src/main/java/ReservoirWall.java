@@ -1,5 +1,3 @@
-import java.util.Arrays;
-
 /**
  * A reservoir wall, as ../shared/DOC.md promises it. The face is the public part of this class; what
  * it stands on is in the classes inside it, one for each kind of part that the document tells.
@@ -1169,7 +1167,7 @@ public final class ReservoirWall {
         Rack(int built, int n) {
             this.built = built;
             places = new int[n];
-            Arrays.fill(places, NONE);
+            for (int i = 0; i < places.length; i++) places[i] = NONE;
         }
 
         boolean isForFloat() {
@@ -1406,7 +1404,7 @@ public final class ReservoirWall {
         final Voices voices = new Voices();
 
         Lake() {
-            Arrays.fill(hands, NO_NUMBER);
+            for (int gate = 0; gate < GATES; gate++) hands[gate] = NO_NUMBER;
         }
 
         static int unitsAt(int k) {
@@ -1532,15 +1530,14 @@ public final class ReservoirWall {
         final long[] rising = new long[GAUGES];
 
         Voices() {
-            Arrays.fill(next, NO_NUMBER);
-            Arrays.fill(past, NO_NUMBER);
+            for (int gauge = 0; gauge < GAUGES; gauge++) next[gauge] = NO_NUMBER;
+            for (int i = 0; i < past.length; i++) past[i] = NO_NUMBER;
         }
 
         /** Bits of THE VOICE, or of the watchman's WORD; NO NUMBER, if there is none. */
         long hear(int step, double toldBefore) {
             int now = step % SPAN * GAUGES;
-            System.arraycopy(next, 0, past, now, GAUGES);
-            Arrays.fill(next, NO_NUMBER);
+            takeIn(now);
             int many = 0;
             for (int gauge = 0; gauge < GAUGES; gauge++) {
                 long reading = past[now + gauge];
@@ -1556,6 +1553,13 @@ public final class ReservoirWall {
             watchman = NO_NUMBER;
             if (!noNumber(said)) return said;
             return many == 0 ? NO_NUMBER : rising[(many - 1) / 2];
+        }
+
+        private void takeIn(int now) {
+            for (int gauge = 0; gauge < GAUGES; gauge++) {
+                past[now + gauge] = next[gauge];
+                next[gauge] = NO_NUMBER;
+            }
         }
 
         private static boolean isFar(long reading, double toldBefore) {

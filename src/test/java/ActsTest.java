@@ -45,11 +45,14 @@ public final class ActsTest {
             x.step(0, TRY, 0, 0, -2, 0), x.step(0, TRY, 0, 0, 12, 0), x.step(0, TRY, 0, 0, 0, -2), x.step(0, TRY, 0, 0, 0, 12));
         int far = Due.MOST, low = Due.LEAST;
         int[][] fine = {{PUT, far, low, far, low}, {TAKE, 0, far, low, far}, {TAKE, 1000000000, far, far, far}, {FAIL, 8, 99, far, far}, {FAIL, 1, 0, low, low}, {HOLD, 3, far, far, far}, {TURN, 0, low, far, far},
-            {SIGNAL, low, far, far, far}, {DO, 11, far, far, far}, {TRY, 11, 9, -1, -1}, {ANSWER, far, far, far, far}, {SUM, low, 0, far, far}};
+            {SIGNAL, low, far, far, far}, {DO, 11, far, far, far}, {TRY, 11, 9, 11, 11}, {ANSWER, far, far, far, far}, {SUM, low, 0, far, far}};
         for (int i = 0; i < 12; i++) Due.due("step " + i, x.step(11, fine[i][0], fine[i][1], fine[i][2], fine[i][3], fine[i][4]), i + 1);
         Due.due("the 13th", x.step(11, SIGNAL, 0, 0, 0, 0), Due.FULL);
         Due.due("OUTSIDE ahead of FULL", x.step(11, 10, 0, 0, 0, 0), Due.OUTSIDE);
         Due.due("another plan's first", x.step(0, SIGNAL, 0, 0, 0, 0), 1);
+        Due.due("TRY without what follows", x.step(0, TRY, 0, 0, -1, -1), 2);
+        Due.due("the last plan is one", x.wipe(11), 12);
+        Due.due("it can be done", x.act(11), 0);
     }
 
     private static void wipe() {

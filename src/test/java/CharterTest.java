@@ -39,6 +39,7 @@ public final class CharterTest {
         rule(x, 3, 15, 25, 5.0, 8.0, 2.0);
         rule(x, 3, 15, 25, 4.0, 6.0, 3.0);
         rule(x, 0, 300, 365, -INF, INF, 4.0);
+        Due.due("day 0", x.ruleAt(0, 0), Due.NONE);
         Due.due("day 10", x.ruleAt(10, Due.bits(5.0)), 0);
         Due.due("day 9", x.ruleAt(9, Due.bits(5.0)), Due.NONE);
         Due.due("day 15: the lesser rank", x.ruleAt(15, Due.bits(5.0)), 1);
@@ -112,6 +113,11 @@ public final class CharterTest {
         y.right(1, 0, 30);
         Due.due("SHARES of 0", y.part(40), 40);
         haves(y, 30, 10);
+        ReservoirWall w = Due.promise(65);
+        w.right(1, 0, 30);
+        w.right(1, 1, 30);
+        Due.due("SHARES of 0 and 1", w.part(40), 40);
+        haves(w, 10, 30);
         ReservoirWall z = Due.promise(65);
         z.right(0, 1000, 1000000000000L);
         for (int i = 1; i < 12; i++) z.right(0, 999, 1000000000000L);

@@ -175,6 +175,14 @@ public final class LakeTest {
         real(x, 5, (5.25 + 0.0 + 7.0) * 0.25);
         Due.due("the bounds", x.run(Due.bits(1000000.0), Due.bits(-100.0)), 4);
         real(x, 4, 1000000.0);
+        ReservoirWall y = Due.promise(57);
+        run(y, 2.0625, -1.0);
+        run(y, 0.0, 1.0);
+        real(y, 4, 0.0625);
+        run(y, 0.0, 0.03125);
+        real(y, 4, 0.0);
+        run(y, 0.0, Double.MIN_VALUE);
+        real(y, 4, 0.0);
     }
 
     private static void told(ReservoirWall x, double want, double... readings) {
@@ -373,6 +381,15 @@ public final class LakeTest {
         for (int i = 0; i < 3; i++) read(y, 0.0, 0.1 * i);
         read(y, -0.0, 0.3);
         Due.due("other bits", y.heard(0), HEARD);
+        for (int odd = 1; odd <= 8; odd++) {
+            ReservoirWall w = Due.promise(59);
+            for (int step = 1; step <= 12; step++) {
+                read(w, step % 2 == 0 ? 9.0 : 9.125, step == odd ? 9.25 : 9.0);
+                boolean still = step >= 4 && (step < odd || step >= odd + 4);
+                Due.due("STEP " + step + ", another READING at " + odd, w.heard(1), still ? HANGS : HEARD);
+                Due.due("the one that stirs", w.heard(0), HEARD);
+            }
+        }
         ReservoirWall z = Due.promise(59);
         for (int i = 0; i < 3; i++) read(z, 9.0, NAN);
         read(z, 9.0, 9.25);

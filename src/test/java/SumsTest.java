@@ -97,6 +97,7 @@ public final class SumsTest {
         Due.due("the least sum", x.quotient(Long.MIN_VALUE, -1, 4), Long.MIN_VALUE);
         Due.due("the bounds together", x.quotient(Long.MIN_VALUE, Long.MAX_VALUE, 4), -1);
         Due.due("the difference", x.quotient(5, -9, 5), 14);
+        Due.all("no difference", 0, x.quotient(3, 3, 5), x.quotient(0, 0, 5), x.quotient(Long.MIN_VALUE, Long.MIN_VALUE, 5));
         Due.due("the greatest difference", x.quotient(0, Long.MIN_VALUE, 5), Long.MAX_VALUE);
         Due.due("the least difference", x.quotient(-2, Long.MAX_VALUE, 5), Long.MIN_VALUE);
         Due.due("no bound", x.quotient(-1, Long.MAX_VALUE, 5), Long.MIN_VALUE);

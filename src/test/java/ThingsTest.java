@@ -283,9 +283,11 @@ public final class ThingsTest {
         x.box(0, 4, 0);
         Due.due("STRIPS", x.used(0), 3);
         Due.raised(x, 0, 0);
-        Due.due("nothing", x.used(1), Due.NULL);
+        Due.all("nothing", Due.NULL, x.used(1), x.used(9), x.used(3));
         Due.raised(x, 1, 0);
         Due.all("no box", Due.UNKNOWN, x.used(-1), x.used(10));
+        Due.all("box 9", 1, x.box(9, 2, 1), x.isA(9, 10), x.taken(9, 10));
+        Due.due("box 9, used", x.used(9), 27);
     }
 
     private static void card() {
