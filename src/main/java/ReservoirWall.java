@@ -1310,7 +1310,7 @@ public final class ReservoirWall {
             switch (steps[at]) {
                 case PUT: return putCell(rows, a, b, steps[at + 3]);
                 case TAKE: return takeLitres(a);
-                case FAIL: return outcomeOf(a, a == WORD ? b : 0);
+                case FAIL: return outcomeOf(a, a == HELD || a == WORD ? b : 0);
                 case HOLD:
                     depths[a]++;
                     return FINE;

@@ -15,6 +15,7 @@ public final class ActsTest {
         actCountsSteps();
         actCatchesTheEnd();
         raised();
+        wordsOfHeld();
         stock();
         gate();
         signal();
@@ -135,7 +136,7 @@ public final class ActsTest {
         for (int a = 1; a <= 8; a++) {
             plan(x, 0, SIGNAL, a, 0, 0, 0, FAIL, a, 50 + a, 0, 0, SIGNAL, -a, 0, 0, 0);
             Due.due("FAIL " + a, x.act(0), -2000000010 - a);
-            Due.raised(x, a, a == 8 ? 58 : 0);
+            Due.raised(x, a, a >= 7 ? 50 + a : 0);
             ended(x, 0, 2, 0);
         }
         Due.due("signals stay", x.about(7), 8);
@@ -218,7 +219,7 @@ public final class ActsTest {
                 plan(x, 1, PUT, 0, 0, by * 10 + failure, 0, FAIL, failure, 4, 0, 0);
                 boolean caught = by == 0 || by == failure || by == 9 && failure <= 7;
                 Due.due("TRY " + by + " of " + failure, x.act(0), caught ? 0 : -2000000010 - failure);
-                Due.raised(x, caught ? 0 : failure, !caught && failure == 8 ? 4 : 0);
+                Due.raised(x, caught ? 0 : failure, !caught && failure >= 7 ? 4 : 0);
                 ended(x, 0, caught ? 5 : 4, 0);
                 if (caught) Due.due("what was put stays", x.get(0, 0), by * 10 + failure);
                 x.put(0, 0, 0);
@@ -335,6 +336,32 @@ public final class ActsTest {
         Due.raised(x, 0, 0);
         x.act(0);
         x.pageByte(0, 0);
+        Due.raised(x, 0, 0);
+    }
+
+    /** A FAIL of 7 has its STEP's WORD; a TURN without a hold, which is 7 as well, has none. */
+    private static void wordsOfHeld() {
+        ReservoirWall x = Due.promise(46);
+        for (int b : new int[] {0, 1, 99}) {
+            plan(x, 0, DO, 1, 0, 0, 0);
+            plan(x, 1, FAIL, 7, b, 0, 0);
+            Due.due("FAIL 7 with " + b, x.act(0), Due.HELD);
+            Due.raised(x, 7, b);
+            plan(x, 0, TURN, 0, 1, 0, 0);
+            Due.due("a TURN without a hold", x.act(0), Due.HELD);
+            Due.raised(x, 7, 0);
+        }
+        plan(x, 0, TRY, 1, 8, -1, 2);
+        plan(x, 1, FAIL, 7, 41, 0, 0);
+        plan(x, 2, SIGNAL, 1, 0, 0, 0);
+        Due.due("not caught by 8", x.act(0), Due.HELD);
+        Due.raised(x, 7, 41);
+        plan(x, 2, FAIL, 7, 42, 0, 0);
+        Due.due("one in another's place", x.act(0), Due.HELD);
+        Due.raised(x, 7, 42);
+        ended(x, 0, 3, 1);
+        plan(x, 0, TRY, 1, 7, -1, -1);
+        Due.due("caught by 7", x.act(0), 0);
         Due.raised(x, 0, 0);
     }
 

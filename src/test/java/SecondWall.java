@@ -20,6 +20,15 @@ public final class SecondWall {
         }
     }
 
+    /** HELD, with the WORD that a FAIL gives it, or 0 where a hold is not there. */
+    static final class Held extends RuntimeException {
+        final int word;
+
+        Held(int word) {
+            this.word = word;
+        }
+    }
+
     static final class Answered extends RuntimeException {
         final int answer;
 
@@ -42,9 +51,14 @@ public final class SecondWall {
             return answer;
         } catch (RuntimeException e) {
             failure = numberOf(e);
-            word = e instanceof Worded ? ((Worded) e).word : 0;
+            word = wordOf(e);
             return FAILED - failure;
         }
+    }
+
+    static int wordOf(RuntimeException e) {
+        if (e instanceof Held) return ((Held) e).word;
+        return e instanceof Worded ? ((Worded) e).word : 0;
     }
 
     static int numberOf(RuntimeException e) {
@@ -54,7 +68,7 @@ public final class SecondWall {
         if (e instanceof ClassCastException) return 4;
         if (e instanceof ArrayStoreException) return 5;
         if (e instanceof ArithmeticException) return 6;
-        if (e instanceof IllegalMonitorStateException) return 7;
+        if (e instanceof Held) return 7;
         if (e instanceof Worded) return 8;
         throw e;
     }
@@ -743,7 +757,7 @@ public final class SecondWall {
                 depths[a]++;
                 break;
             case 4:
-                if (depths[a] == 0) throw new IllegalMonitorStateException();
+                if (depths[a] == 0) throw new Held(0);
                 long turned = (long) notches[a] + b;
                 notches[a] = turned < 0 ? 0 : turned > 100 ? 100 : (int) turned;
                 break;
@@ -772,7 +786,7 @@ public final class SecondWall {
             case 4: return new ClassCastException();
             case 5: return new ArrayStoreException();
             case 6: return new ArithmeticException();
-            case 7: return new IllegalMonitorStateException();
+            case 7: return new Held(b);
             default: return new Worded(b);
         }
     }
