@@ -1,7 +1,10 @@
+import java.lang.reflect.Field;
+
 /** Promises 76 to 83: the book. */
 public final class BookTest {
-    public static void main(String[] args) {
+    public static void main(String[] args) throws ReflectiveOperationException {
         book();
+        bookIsFull();
         pageByte();
         damage();
         tear();
@@ -68,6 +71,35 @@ public final class BookTest {
         Due.due("32 ROWS", x.open(), 32);
         Due.due("the least NUMBER", x.opened(0, 0), 269);
         Due.due("the greatest", x.opened(31, 0), 300);
+    }
+
+    /**
+     * "FULL: 60000 were." So many are more than a wall is used for, so the test sets their count itself; whoever keeps
+     * it elsewhere is to change the names of its fields here.
+     */
+    private static void bookIsFull() throws ReflectiveOperationException {
+        ReservoirWall x = booked(76, 1);
+        x.row(1, 25);
+        Field pages = ReservoirWall.class.getDeclaredField("pages");
+        pages.setAccessible(true);
+        Field bookings = pages.getType().getDeclaredField("bookings");
+        bookings.setAccessible(true);
+        bookings.setInt(pages.get(x), 59998);
+        Due.due("the 59999th", x.book(0), 59999);
+        Due.due("the 60000th", x.book(0), 60000);
+        Due.raised(x, 0, 0);
+        Due.due("its page", x.opened(2, 2), 59999 % 32);
+        Due.due("its NUMBER's high byte", x.pageByte(59999 % 32, 0), 60000 / 256);
+        Due.due("its NUMBER's low byte", x.pageByte(59999 % 32, 1), 60000 % 256);
+        Due.due("its NUMBER", x.opened(2, 0), 60000);
+        Due.due("the 60001st", x.book(0), Due.FULL);
+        Due.due("about(10)", x.about(10), 60000);
+        Due.due("nothing was written", x.open(), 3);
+        Due.due("OUTSIDE ahead of FULL", x.book(1), Due.OUTSIDE);
+        Due.due("NULL ahead of FULL", x.book(-1), Due.NULL);
+        Due.due("UNKNOWN ahead of FULL", x.book(2), Due.UNKNOWN);
+        Due.due("still FULL", x.book(0), Due.FULL);
+        Due.raised(x, 1, 0);
     }
 
     private static void pageByte() {
