@@ -10,6 +10,7 @@ public final class ActsTest {
         actFails();
         actHolds();
         actDoes();
+        actTriesEach();
         actTries();
         actPutsBy();
         actCountsSteps();
@@ -208,12 +209,17 @@ public final class ActsTest {
         Due.due("signal(3)", x.signal(3), Due.NONE);
     }
 
-    private static void actTries() {
+    private static ReservoirWall withPlansToTry() {
         ReservoirWall x = Due.promise(45);
         x.row(1, 1);
         plan(x, 2, SIGNAL, 2, 0, 0, 0);
         plan(x, 3, SIGNAL, 3, 0, 0, 0);
+        return x;
+    }
+
+    private static void actTriesEach() {
         for (int by = 0; by <= 9; by++) {
+            ReservoirWall x = withPlansToTry();
             for (int failure = 1; failure <= 8; failure++) {
                 plan(x, 0, TRY, 1, by, 2, 3);
                 plan(x, 1, PUT, 0, 0, by * 10 + failure, 0, FAIL, failure, 4, 0, 0);
@@ -225,6 +231,10 @@ public final class ActsTest {
                 x.put(0, 0, 0);
             }
         }
+    }
+
+    private static void actTries() {
+        ReservoirWall x = withPlansToTry();
         plan(x, 0, TRY, 1, 0, 2, 3);
         plan(x, 1, ANSWER, 6, 0, 0, 0);
         Due.due("an answer is not caught", x.act(0), 1);

@@ -58,8 +58,8 @@ public final class SumsTest {
     private static void test() {
         double[] cells = {1.0, 2.0, NAN, 0.0, -0.0, INF, -INF};
         for (int kind = 2; kind <= 3; kind++) {
-            ReservoirWall x = ofReals(41, kind, cells);
             for (int i = 0; i < cells.length; i++) {
+                ReservoirWall x = ofReals(41, kind, cells);
                 for (int j = 0; j < cells.length; j++) {
                     double a = cells[i], b = cells[j];
                     boolean[] holds = {a < b, a <= b, a > b, a >= b, a == b, a != b};
