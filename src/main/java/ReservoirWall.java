@@ -1536,7 +1536,8 @@ public final class ReservoirWall {
 
         /** Bits of THE VOICE, or of the watchman's WORD; NO NUMBER, if there is none. */
         long hear(int step, double toldBefore) {
-            int now = step % SPAN * GAUGES;
+            // not by %: an index must not fall below 0 on a wall that was used past all bounds
+            int now = (step & SPAN - 1) * GAUGES;
             takeIn(now);
             int many = 0;
             for (int gauge = 0; gauge < GAUGES; gauge++) {

@@ -1,9 +1,11 @@
+import java.lang.reflect.Field;
+
 /** Promises 50 to 61: the lake. */
 public final class LakeTest {
     private static final double NAN = Double.NaN;
     private static final int HEARD = 0, SILENT = 1, HANGS = 2, JUMPS = 3;
 
-    public static void main(String[] args) {
+    public static void main(String[] args) throws ReflectiveOperationException {
         table();
         turned();
         reading();
@@ -19,6 +21,7 @@ public final class LakeTest {
         runRoots();
         runSpills();
         runLacks();
+        runsPastCounting();
         lake();
         heardHangs();
         heardJumps();
@@ -332,6 +335,21 @@ public final class LakeTest {
         real(x, 8, 0.0);
         real(x, 6, 0.0);
         real(x, 1, 0.0);
+    }
+
+    /** "No call may ever throw by itself .. in any state" (LANGUAGE.md, rule 7), not even where STEPS are past all counting. */
+    private static void runsPastCounting() throws ReflectiveOperationException {
+        ReservoirWall x = Due.promise(57);
+        Field water = ReservoirWall.class.getDeclaredField("water");
+        water.setAccessible(true);
+        Field steps = water.getType().getDeclaredField("steps");
+        steps.setAccessible(true);
+        steps.setInt(water.get(x), Due.MOST - 2);
+        for (int i = 0; i < 6; i++) {
+            x.reading(0, Due.bits(4.0));
+            run(x, 1.0, 1.0);
+            Due.due("the reading is heard", x.heard(0) == Due.NONE ? 0 : 1, 1);
+        }
     }
 
     private static void lake() {

@@ -30,7 +30,7 @@ public final class LanguageTest {
     public static void main(String[] args) throws Exception {
         List<Class<?>> all = new ArrayList<>(List.of(ReservoirWall.class));
         all.addAll(Arrays.asList(ReservoirWall.class.getDeclaredClasses()));
-        face();
+        face(all);
         due("rule 11: classes", all.size() <= 12);
         for (Class<?> type : all) {
             membersOf(type);
@@ -41,12 +41,17 @@ public final class LanguageTest {
         if (wrong != 0) System.exit(1);
     }
 
-    private static void face() {
+    private static void face(List<Class<?>> all) {
         due("rule 1: public and final", (ReservoirWall.class.getModifiers() & (Modifier.PUBLIC | Modifier.FINAL)) == (Modifier.PUBLIC | Modifier.FINAL));
         Set<String> open = new HashSet<>(), closed = new HashSet<>();
         for (Method m : ReservoirWall.class.getDeclaredMethods()) {
             due("rule 1: " + m, Modifier.isPublic(m.getModifiers()) || Modifier.isPrivate(m.getModifiers()));
-            (Modifier.isPublic(m.getModifiers()) ? open : closed).add(m.getName());
+            if (Modifier.isPublic(m.getModifiers())) open.add(m.getName());
+        }
+        for (Class<?> type : all) {
+            for (Method m : type.getDeclaredMethods()) {
+                if (Modifier.isPrivate(m.getModifiers())) closed.add(m.getName());
+            }
         }
         due("rule 1: 82 methods", open.size() == 82);
         closed.retainAll(open);
